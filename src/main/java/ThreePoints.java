@@ -164,7 +164,8 @@ public final class ThreePoints {
         if (!isTwoFlags(goalWhat)) return WRONG_LATER;
         think(v);
         search.toHeading(ride, otherHeading(ride.vehicle.heading), goalWhat / 10);
-        return goalWhat % 10 == 0 ? search.fromNow(ride.vehicle) : search.firstStep(ride);
+        int least = search.leastFromNow(ride);
+        return goalWhat % 10 == 0 ? least : search.firstStep;
     }
 
     public int where(int v, int goalWhat) {
@@ -176,7 +177,7 @@ public final class ThreePoints {
         int least = NONE;
         for (int place = 0; place <= yard.lane.width; place++) {
             if (!ride.fits(place, 0)) continue;
-            int cost = search.from(place, 0, NONE);
+            int cost = search.least(ride, place, 0, NONE);
             if (cost != NONE && (least == NONE || cost < least)) {
                 least = cost;
                 best = place;
@@ -194,7 +195,7 @@ public final class ThreePoints {
             ride.vehicle.startAt(width / 2);
             if (!ride.fitsNow()) continue;
             search.toHeading(ride, otherHeading(ride.vehicle.heading), GOAL_POINTS);
-            if (isWithin(search.fromNow(ride.vehicle), 0, most)) return width;
+            if (isWithin(search.leastFromNow(ride), 0, most)) return width;
         }
         return NONE;
     }
@@ -206,7 +207,7 @@ public final class ThreePoints {
         for (int opening = 0; opening <= MOST_OPENING; opening++) {
             ride.lane.opening = opening;
             search.toHeading(ride, otherHeading(ride.vehicle.heading), GOAL_POINTS);
-            if (isWithin(search.fromNow(ride.vehicle), 0, most)) return opening;
+            if (isWithin(search.leastFromNow(ride), 0, most)) return opening;
         }
         return NONE;
     }
@@ -224,7 +225,7 @@ public final class ThreePoints {
         for (int v = 0; v < yard.count; v++) {
             think(v);
             search.toHeading(ride, otherHeading(ride.vehicle.heading), GOAL_POINTS);
-            int points = search.fromNow(ride.vehicle);
+            int points = search.leastFromNow(ride);
             if (points != NONE && (fewest == NONE || points < fewest)) {
                 fewest = points;
                 best = v;
@@ -1000,33 +1001,39 @@ public final class ThreePoints {
      * STEP by STEP, as one such search serves every place to begin from.
      */
     private static final class Search {
-        private static final int STATES = (MOST_WIDTH + 1) * HEADINGS * 2;
+        private static final int SPOTS = (MOST_WIDTH + 1) * HEADINGS, STATES = 2 * SPOTS;
         private static final int FAR = 2147483647;
         /** More than a STEP can cost, so that costs in the same bucket are equal. */
         private static final int BUCKETS = 128;
         private static final int MOST_COST = 99 * STATES;
 
-        private int target;
         private int goal;
-        /** Of each state the least cost found so far; a state is a PLACE, a HEADING and, for POINTS, a LAST way. */
+        /** Of each PLACE with each HEADING whether it FITS. */
+        private final boolean[] fitting = new boolean[SPOTS];
+        /** The least cost found so far from each state: a PLACE, a HEADING and, for POINTS, a LAST way. */
         private final int[] costs = new int[STATES];
         /** The states to look at, a chain for each cost. */
         private final int[] heads = new int[BUCKETS];
         private final int[] nexts = new int[STATES];
         private final int[] previous = new int[STATES];
         private int waiting;
+        /** The first STEP of what least() found: 10 times the way, and the WHEEL and 1; NONE, if there is none. */
+        int firstStep;
 
         private static int state(int place, int heading, int last) {
             int inLane = Math.max(0, Math.min(place, MOST_WIDTH));
             return (inLane * HEADINGS + (heading & 15)) * 2 + (last & 1);
         }
 
+        /** Finds the costs by which it comes to a HEADING. */
         void toHeading(Ride ride, int heading, int aim) {
-            target = heading;
             goal = aim;
             waiting = 0;
             Arrays.fill(costs, FAR);
             Arrays.fill(heads, NONE);
+            for (int spot = 0; spot < (ride.lane.width + 1) * HEADINGS && spot < SPOTS; spot++) {
+                fitting[spot] = ride.fits(spot / HEADINGS, spot % HEADINGS);
+            }
             for (int place = 0; place <= ride.lane.width; place++) {
                 lower(state(place, heading, FORWARD), 0);
                 if (goal == GOAL_POINTS) lower(state(place, heading, BACK), 0);
@@ -1045,7 +1052,6 @@ public final class ThreePoints {
             int last = state & 1;
             int heading = (state >> 1) & 15;
             int place = state >> 5;
-            if (!ride.fits(place, heading)) return;
             for (int way = FORWARD; way <= BACK; way++) {
                 if (goal == GOAL_POINTS && way != last) continue;
                 for (int wheel = -1; wheel <= 1; wheel++) {
@@ -1064,6 +1070,7 @@ public final class ThreePoints {
 
         private void lower(int state, int cost) {
             if (state < 0 || state >= STATES || cost < 0 || cost >= costs[state]) return;
+            if (!fitting[state >> 1]) return;
             if (costs[state] != FAR) unlink(state);
             costs[state] = cost;
             int head = heads[cost % BUCKETS];
@@ -1084,44 +1091,29 @@ public final class ThreePoints {
             waiting--;
         }
 
-        int fromNow(Vehicle v) {
-            return from(v.place, v.heading, v.last);
-        }
-
-        /** The least cost to the HEADING searched for; NONE, if it is never reached. */
-        int from(int place, int heading, int last) {
-            if (heading == target) return 0;
-            int first = costs[state(place, heading, FORWARD)];
-            if (goal == GOAL_WEAR) return first == FAR ? NONE : first;
-            int second = costs[state(place, heading, BACK)];
-            if (last == NONE) {
-                int least = Math.min(first, second);
-                return least == FAR ? NONE : least + 1;
-            }
-            int cost = last == FORWARD ? first : second;
-            return cost == FAR ? NONE : cost;
-        }
-
-        /** 10 times the way, and the WHEEL and 1, of the first STEP by which it costs least; NONE, if there is none. */
-        int firstStep(Ride ride) {
-            Vehicle v = ride.vehicle;
+        /** The least cost to the HEADING that was searched for, at least a STEP; NONE, if it is never reached. */
+        int least(Ride ride, int place, int heading, int last) {
             int least = FAR;
-            int best = NONE;
+            firstStep = NONE;
             for (int way = FORWARD; way <= BACK; way++) {
+                int to = place + Ride.shift(heading, way);
+                if (to < 0 || to > ride.lane.width) continue;
                 for (int wheel = -1; wheel <= 1; wheel++) {
-                    int place = v.place + Ride.shift(v.heading, way);
-                    int heading = ride.turnedBy(v.heading, way, wheel);
-                    if (!ride.fits(place, heading)) continue;
-                    int rest = from(place, heading, way);
-                    if (rest == NONE) continue;
-                    int own = way == v.last ? 0 : 1;
-                    if (goal == GOAL_WEAR) own = ride.wears(v.place, v.heading, wheel);
+                    int side = goal == GOAL_POINTS ? way : FORWARD;
+                    int rest = costs[state(to, ride.turnedBy(heading, way, wheel), side)];
+                    if (rest == FAR) continue;
+                    int own = way == last ? 0 : 1;
+                    if (goal == GOAL_WEAR) own = ride.wears(place, heading, wheel);
                     if (own + rest >= least) continue;
                     least = own + rest;
-                    best = 10 * way + wheel + 1;
+                    firstStep = 10 * way + wheel + 1;
                 }
             }
-            return best;
+            return least == FAR ? NONE : least;
+        }
+
+        int leastFromNow(Ride ride) {
+            return least(ride, ride.vehicle.place, ride.vehicle.heading, ride.vehicle.last);
         }
 
         /** The HEADINGS (bits) that STEPS lead to from where the VEHICLE is, its own among them. */
@@ -1145,11 +1137,13 @@ public final class ThreePoints {
             int many = found;
             for (int way = FORWARD; way <= BACK; way++) {
                 int to = place + Ride.shift(heading, way);
+                if (to < 0 || to > ride.lane.width) continue;
                 for (int wheel = -1; wheel <= 1; wheel++) {
-                    int heads = ride.turnedBy(heading, way, wheel);
-                    int state = state(to, heads, FORWARD);
-                    if (costs[state] != FAR || !ride.fits(to, heads) || many >= STATES) continue;
+                    int turned = ride.turnedBy(heading, way, wheel);
+                    int state = state(to, turned, FORWARD);
+                    if (costs[state] != FAR || many >= STATES) continue;
                     costs[state] = 0;
+                    if (!ride.fits(to, turned)) continue;
                     nexts[many] = state;
                     many++;
                 }
