@@ -69,10 +69,14 @@ final class HostTest {
         Due.is("29 number 1", x.cell(0, 1, 12), 1);
         Due.is("29 number 2", x.cell(0, 2, 13), 1);
         for (int i = 0; i < 3; i++) Due.is("29 number " + i, number(x, 0, 2, i), 11 + i);
-        x.sheet(0, 2, 3);
         x.vehicle(0, 20);
-        x.sheet(1, 2, 2);
+        Due.sheet(x, 0, 0, 1, 1);
+        Due.is("29 moves", x.judge(0, 0), -1);
+        x.sheet(0, 2, 3);
         Due.is("28 all 0, so no moves", x.judge(0, 0), -2);
+        Due.sheet(x, 1, 0, 20);
+        Due.is("29 a VEHICLE", x.vehiclesBy(1, 2, 0, 1), 1);
+        x.sheet(1, 2, 2);
         Due.is("28 all 0, so none FITS", x.vehiclesBy(1, 2, 0, 1), 0);
     }
 

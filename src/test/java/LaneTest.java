@@ -12,6 +12,7 @@ final class LaneTest {
         textsAreFull();
         faults();
         opens();
+        textsAnew();
         forces();
         asksRefused();
         asksOfTheFirstLaw();
@@ -198,6 +199,8 @@ final class LaneTest {
         fault("clears 1 + 12345 ; ?", 11);
         fault("clears steer ; wears 1 ; sure 1 ;", 7);
         fault("clears morewall ; wears 1 ; sure 1 ;", 7);
+        fault("clears wallz ; wears 1 ; sure 1 ;", 7);
+        fault("clears amore ; wears 1 ; sure 1 ;", 7);
         fault("clears 1 + clears ; wears 1 ; sure 1 ;", 11);
         fault("clears 1\t+ 1 ; wears 1 ; sure 1 ;", 8);
         fault("clears 1\r+ 1 ; wears 1 ; sure 1 ;", 8);
@@ -239,6 +242,21 @@ final class LaneTest {
         Due.is("5 a not ends with what belongs to it", Due.text(x,
             "clears not 1 and not 1 and not 1 or not 1 or not 1 or not 1 ; wears (((1 - 1 - 1 - 1))) ; sure 1 ;"), 3);
         Due.is("5 a - between is none of them", Due.text(x, "clears (((((1-1-1))))) ; wears 1 ; sure 1 ;"), 4);
+    }
+
+    /** What one TEXT left is nothing to the next. */
+    private static void textsAnew() {
+        ThreePoints x = new ThreePoints();
+        x.vehicle(0, 20);
+        StringBuilder wrong = new StringBuilder("clears 1;wears 1;sure 1");
+        while (wrong.length() < 159) wrong.append("+1");
+        for (int i = 0; i < 2; i++) Due.is("5 a FAULT at its end", Due.text(x, wrong.toString()), -259);
+        Due.is("5 five open", Due.text(x, "clears ((((("), -112);
+        Due.is("5 five open once more", Due.text(x, "clears (((((5))))) ; wears 6 ; sure 7 ;"), 1);
+        x.force(1);
+        Due.is("7 clears", x.asks(0, 0, 2000, 0), 5);
+        Due.is("7 wears", x.asks(1, 0, 2000, 0), 6);
+        Due.is("7 sure", x.asks(2, 0, 2000, 0), 7);
     }
 
     private static void forces() {

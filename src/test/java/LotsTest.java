@@ -70,6 +70,19 @@ final class LotsTest {
         drawn(x, 0, 1, 0, 1, 0);
         Due.law(x, "clears 1 ; wears 1 ; sure 40 + steers * 60 ;");
         drawn(x, 0, 1, -1, 1, 0);
+        Due.law(x, "clears 1 ; wears 1 ; sure 45 * steers ;");
+        drawn(x, 0, 1, 0, 1, 0);
+        drawn(x, 3, 1, 0, 1, 0);
+        drawn(x, 4, 1, -1, 1, 0);
+        ThreePoints y = new ThreePoints();
+        y.vehicle(0, 34);
+        y.drive(0, 0, 1);
+        y.drive(0, 0, 1);
+        // by SEED 1 straight on, 3 toward the wall with HEADING 2
+        Due.law(y, "clears 1 ; wears 1 ; sure 95 - steers * 50 ;");
+        drawn(y, 1, 1, -1, 35, 2);
+        Due.law(y, "clears 1 ; wears 1 ; sure 90 + steers * 50 ;");
+        drawn(y, 1, 1, 0, 35, 2);
         Due.law(x, "clears 1 ; wears 1 ; sure 46 * (place = 1 and heading = 0) ;");
         drawn(x, 0, 1, -1, 1, 0);
     }

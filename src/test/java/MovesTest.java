@@ -243,5 +243,7 @@ final class MovesTest {
         Due.is("23 THE LAW stays", x.count(4), 1);
         Due.text(x, "clears 5 ; wears 1 ; sure 1 ;");
         Due.is("23 of six", x.laws(0, 0), 0b110101);
+        Due.sheet(x, 0, 0, -1, 9);
+        Due.is("23 none", x.laws(0, 0), 0);
     }
 }

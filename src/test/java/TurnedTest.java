@@ -19,6 +19,7 @@ final class TurnedTest {
         cut();
         cutFromWhereItIs();
         headings();
+        atPlaceZero();
         best();
         nothingChanged();
         Due.end();
@@ -49,6 +50,10 @@ final class TurnedTest {
         turned(x, 0, 1, 1, 17, 0);
         x.begin(0, 39);
         turned(x, 0, -1, -1, -1, -1);
+        ThreePoints y = new ThreePoints();
+        y.set(0, 60);
+        y.vehicle(0, 58);
+        turned(y, 0, 1, 0, 17, 0);
         // from 38 down by HEADINGS 15 .. 9, the second STEP straight
         x.begin(0, 38);
         turned(x, 0, 1, 0, 17, 0);
@@ -165,6 +170,15 @@ final class TurnedTest {
         Due.law(x, "clears 1 ; wears (heading = 0) * (place - 12) * (place - 12) + 1 ; sure 1 ;");
         Due.is("14 where it wears least", x.where(0, 10), 12);
         Due.is("14 eight STEPS", x.where(0, 11), 8);
+        // a CART turns close to the walls, at PLACE 0 and at WIDTH, too
+        ThreePoints c = new ThreePoints();
+        c.vehicle(20, 20);
+        Due.law(c, "clears 0 ; wears 1 + steers ; sure 1 ;");
+        where(c, 0, 0, 1, 0, 16);
+        Due.law(c, "clears 0 ; wears 2 - (place = width and heading = 0) * 2 ; sure 1 ;");
+        where(c, 0, 0, 1, 40, 14);
+        Due.law(c, "clears 0 ; wears 2 - (place = 0 and heading = 0) * 2 ; sure 1 ;");
+        where(c, 0, 0, 1, 0, 14);
         // the lane is too narrow for it with HEADING 0, though not with others
         ThreePoints y = new ThreePoints();
         y.set(0, 17);
@@ -216,6 +230,8 @@ final class TurnedTest {
         Due.is("15 two less by clears 0", x.narrow(0, 1), 20);
         Due.law(x, "clears 9 ; wears 1 ; sure 1 ;");
         Due.is("15 sixteen more by clears 9", x.narrow(0, 1), 38);
+        Due.law(x, "clears (heading = 0) * 9 ; wears 1 ; sure 1 ;");
+        Due.is("15 it must FIT to begin with", x.narrow(0, 99), 18);
         Due.is("15 THE LANE stays", x.count(1), 40);
     }
 
@@ -278,6 +294,25 @@ final class TurnedTest {
             y.set(0, width);
             Due.is("17 WIDTH " + width, y.headings(0), due[width - 8]);
         }
+    }
+
+    /** HEADING 0 only at PLACE 0, in 17, and then nowhere. */
+    private static void atPlaceZero() {
+        ThreePoints x = new ThreePoints();
+        x.vehicle(20, 8);
+        Due.is("WIDTH", x.set(0, 17), 40);
+        Due.law(x, "clears 0 ; wears 1 ; sure 1 ;");
+        Due.is("12 at PLACE 0", x.begin(0, 0), 8);
+        Due.is("17 from PLACE 0", x.headings(0), 65535);
+        int[][] moves = {{0, 1, 0}, {0, 1, 1}, {0, 1, 4}, {0, 1, 7}, {0, 1, 11}, {1, -1, 8}, {0, 1, 11}, {0, 1, 12}};
+        for (int[] m : moves) Due.is("11 a STEP", x.drive(0, m[0], m[1]), m[2]);
+        Due.is("11 HEADING", x.told(0, 3), 8);
+        Due.law(x, "clears (heading = 0 and 0 < place) * 9 ; wears 1 ; sure 1 ;");
+        turned(x, 0, 1, 0, 8, 0);
+        Due.is("17 all", x.headings(0), 65535);
+        Due.law(x, "clears (heading = 0) * 9 ; wears 1 ; sure 1 ;");
+        turned(x, 0, -1, -1, -1, -1);
+        Due.is("17 all but one", x.headings(0), 65534);
     }
 
     private static void best() {

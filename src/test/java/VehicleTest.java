@@ -283,5 +283,10 @@ final class VehicleTest {
         Due.same("12 the other one stays", Due.state(x, 1), "3 9 20 0 0 0 -1 14 13");
         x.drive(0, 1, 0);
         Due.is("12 the first way is one POINT", x.told(0, 4), 1);
+        Due.law(x, "clears more ; wears 1 ; sure 1 ;");
+        x.fit(1, 900);
+        Due.is("12 by its own MORE", x.begin(0, 0), 1);
+        x.fit(0, 800);
+        Due.is("12 by its own MORE", x.begin(1, 8), -3);
     }
 }
