@@ -11,13 +11,18 @@ final class LaneTest {
         texts();
         textsAreFull();
         faults();
+        firstFaults();
+        everyByte();
+        longTexts();
         opens();
+        sixthOpen();
         textsAnew();
         forces();
         asksRefused();
         asksOfTheFirstLaw();
         asksBounded();
         values();
+        wraps();
         names();
         Due.end();
     }
@@ -97,6 +102,14 @@ final class LaneTest {
         Due.law(z, "clears 9 ; wears 0 ; sure 0 ;");
         Due.is("3 it doesn't FIT as it is", z.set(0, 40), -3);
         Due.is("3 it doesn't FIT as it is", z.set(1, 0), -3);
+
+        // whichever of four it is
+        for (int v = 0; v < 4; v++) {
+            ThreePoints w = new ThreePoints();
+            for (int i = 0; i < 4; i++) w.vehicle(0, i == v ? 30 : 20);
+            Due.is("3 number " + v + " would not FIT", w.set(0, 30), -3);
+            Due.is("3 all would", w.set(0, 31), 40);
+        }
     }
 
     private static void feeds() {
@@ -228,6 +241,82 @@ final class LaneTest {
         fault("clears 1 ; wears 1 ; sure", 25);
     }
 
+    /** Of two that can't stand there the first one tells, of whichever sort they are. */
+    private static void firstFaults() {
+        fault("more 1 ; wears 1 ; sure 1 ;", 0);
+        fault("1 ; wears 1 ; sure 1 ;", 0);
+        fault("clears 1 1 ? ; wears 1 ; sure 1 ;", 9);
+        fault("clears ? 1 1 ; wears 1 ; sure 1 ;", 7);
+        fault("clears 12345 nor ; wears 1 ; sure 1 ;", 7);
+        fault("clears nor 12345 ; wears 1 ; sure 1 ;", 7);
+        fault("clears 1 + ; wears 12345 ; sure ? ;", 11);
+        fault("clears ((((( 1 ( ? ; wears 1 ; sure 1 ;", 15);
+        // TOKENS are as long as can be
+        fault("clears more1 ; wears 1 ; sure 1 ;", 11);
+        fault("clears 1more ; wears 1 ; sure 1 ;", 8);
+        fault("clears notmore ; wears 1 ; sure 1 ;", 7);
+        fault("clears 1 or1or ; wears 1 ; sure 1 ;", 15);
+        fault("clears 99999 ; wears 1 ; sure 1 ;", 7);
+        fault("clears 00000 ; wears 1 ; sure 1 ;", 7);
+        fault("clears 1234567890123 ; wears 1 ; sure 1 ;", 7);
+        ThreePoints x = new ThreePoints();
+        Due.is("5 four digits", Due.text(x, "clears 9999 ; wears 0000 ; sure 0009 ;"), 1);
+        Due.is("5 a sign ends a WORD and a NUMBER", Due.text(x, "clears more+1;wears(1)*place;sure not more<1or 2and wall;"), 2);
+    }
+
+    /** Each byte between two NUMBERS, and ahead of and behind all: a digit, a blank, what joins, or what can't stand there. */
+    private static void everyByte() {
+        String text = "clears 1 ; wears 1 ; sure 1 ;";
+        for (int b = 0; b < 256; b++) {
+            boolean blank = b == 32 || b == 10;
+            boolean joins = b >= '0' && b <= '9' || "+-*<=".indexOf(b) >= 0;
+            // behind a blank there are two NUMBERS, and behind a ; there is 1 where wears is due
+            int between = joins ? 1 : blank || b == ';' ? -109 : -108;
+            Due.is("5 byte " + b, Due.text(new ThreePoints(), "clears 1" + (char) b + "1 ; wears 1 ; sure 1 ;"), between);
+            Due.is("5 byte " + b + " ahead", Due.text(new ThreePoints(), (char) b + text), blank ? 1 : -100);
+            Due.is("5 byte " + b + " behind", Due.text(new ThreePoints(), text + (char) b), blank ? 1 : -129);
+        }
+    }
+
+    private static String repeated(char sign, int n) {
+        return String.valueOf(sign).repeat(n);
+    }
+
+    private static void longTexts() {
+        String all = "clears 1;wears 1;sure 1;";
+        fault(repeated(' ', 160), 160);
+        fault(repeated('a', 160), 0);
+        fault("clears " + repeated('1', 153), 7);
+        fault("clears " + repeated(' ', 152) + "1", 160);
+        fault("clears " + repeated(' ', 152) + "?", 159);
+        fault(repeated(';', 160), 0);
+        fault("clears 1" + repeated('*', 152), 9);
+        ThreePoints x = new ThreePoints();
+        Due.is("5 blanks ahead", Due.text(x, repeated(' ', 136) + all), 1);
+        Due.is("5 blanks behind", Due.text(x, all + repeated((char) 10, 136)), 2);
+        Due.is("5 blanks between", Due.text(x, all.replace("sure", "sure" + repeated(' ', 136))), 3);
+    }
+
+    /** Five open, whichever they are, and then a sixth, whichever it is. */
+    private static void sixthOpen() {
+        String[] opening = {"( ", "- ", "not "};
+        for (int i = 0; i < 243; i++) {
+            StringBuilder five = new StringBuilder("clears ");
+            boolean right = true;
+            boolean minus = false;
+            for (int k = 0, left = i; k < 5; k++, left /= 3) {
+                int which = left % 3;
+                // behind a - only a ONE can stand
+                right &= !(minus && which == 2);
+                minus = which == 1;
+                five.append(opening[which]);
+            }
+            if (!right) continue;
+            fault(five + "1 ", five.length() + 2);
+            for (int which = 0; which < 3; which++) fault(five + opening[which] + "1 ;", five.length());
+        }
+    }
+
     private static void opens() {
         fault("clears ((((((1)))))) ; wears 1 ; sure 1 ;", 12);
         fault("clears ------1 ; wears 1 ; sure 1 ;", 12);
@@ -355,6 +444,21 @@ final class LaneTest {
         // 10000 * 10000 * 43 is 5032704 more than 2 to the 32nd
         value("(9999 + 1) * (9999 + 1) * 43 = 503 * (9999 + 1) + 2704", 1);
         value("9999 * 9999 * 22 < 0", 1);
+    }
+
+    /** 32 bits, wrapping: up, down, by - and by *. */
+    private static void wraps() {
+        String most = "(9999 * 9999 * 21 + 9999 * 4790 + 8416)";
+        value(most + " < 0", 0);
+        value(most + " + 1 < 0", 1);
+        value(most + " + 1 = - " + most + " - 1", 1);
+        value("- " + most + " - 2 = " + most, 1);
+        value("- (" + most + " + 1) < 0", 1);
+        value("(" + most + " + 1) * 2 = 0", 1);
+        value(most + " * " + most, 1);
+        value(most + " + 1", 0);
+        value(most, 100);
+        value("- " + most + " - 1 < " + most, 1);
     }
 
     private static void names() {

@@ -8,12 +8,15 @@ final class LotsTest {
         hitsBySteers();
         hitsOfTheSecondLot();
         longDrives();
+        lastStepHits();
         drawnRefused();
         odds();
+        oddsOfForty();
         oddsRefused();
         noImage();
         images();
         imagesOfVehicles();
+        imagesOfAll();
         Due.end();
     }
 
@@ -110,6 +113,35 @@ final class LotsTest {
         drawn(z, 7, 30, -1, 45, 10);
     }
 
+    /** STEPS count from 0, so the last of 60 is 59. */
+    private static void lastStepHits() {
+        ThreePoints x = new ThreePoints();
+        x.vehicle(0, 20);
+        Due.law(x, "clears 1 ; wears 1 ; sure 80 ;");
+        drawn(x, 23, 60, 59, 5, 2);
+        drawn(x, 23, 59, -1, 5, 2);
+        odds(x, 23, 6001, 0, 1);
+        odds(x, 23, 5901, 1, 1);
+        Due.law(x, "clears 1 ; wears 1 ; sure 100 ;");
+        Due.is("24 by sure 100 it never HITS", x.drawn(23, 60, 0, 0), -1);
+    }
+
+    /** How many of so many seeds HIT in none is counted by drawn(), and the terms are the lowest. */
+    private static void oddsOfForty() {
+        ThreePoints x = new ThreePoints();
+        x.vehicle(0, 1);
+        int[] free = new int[41];
+        for (int i = 0; i < 40; i++) free[i + 1] = free[i] + (x.drawn(i, 2, 0, 0) == -1 ? 1 : 0);
+        Due.is("24 some of forty", free[40], 24);
+        for (int many = 1; many <= 40; many++) {
+            long above = x.odds(0, 200 + many, 0, 0);
+            long below = x.odds(0, 200 + many, 0, 1);
+            Due.is("25 of " + many, above * many, free[many] * below);
+            Due.isTrue("25 below the line is above 0, of " + many, below > 0 && below <= many);
+            for (int d = 2; d <= 40; d++) Due.isTrue("25 in lowest terms", above % d != 0 || below % d != 0);
+        }
+    }
+
     private static void drawnRefused() {
         ThreePoints x = new ThreePoints();
         Due.is("24 no VEHICLE", x.drawn(0, 0, 0, 0), -5);
@@ -203,6 +235,31 @@ final class LotsTest {
         x.begin(0, 32);
         x.back();
         Due.is("27 the last one", x.told(0, 2), 31);
+    }
+
+    /** Of all VEHICLES all that it keeps is as it was, and of those that came since nothing stays. */
+    private static void imagesOfAll() {
+        ThreePoints x = new ThreePoints();
+        for (int i = 0; i < 3; i++) {
+            x.vehicle(11 * i, 15 + i);
+            for (int k = 0; k <= i; k++) x.drive(i, k % 2, 1);
+        }
+        String[] then = new String[3];
+        for (int i = 0; i < 3; i++) then[i] = Due.state(x, i);
+        Due.same("26 ahead", then[0] + ", " + then[1] + ", " + then[2],
+            "0 0 15 1 1 2 0 5 4, 1 1 15 0 2 4 1 6 4, 2 2 16 1 3 6 0 5 2");
+        Due.is("26 three", x.image(), 3);
+        x.vehicle(33, 20);
+        for (int i = 0; i < 4; i++) {
+            x.begin(i, 30);
+            x.drive(i, 1, -1);
+        }
+        Due.is("27 three", x.back(), 3);
+        for (int i = 0; i < 3; i++) Due.same("27 number " + i, Due.state(x, i), then[i]);
+        Due.is("27 the fourth is none", x.told(3, 0), -5);
+        Due.is("27 the fourth is none", x.fit(3, 2000), -5);
+        Due.is("27 not even the best", x.best(0), 0);
+        Due.is("27 what was told is as then", x.set(0, 40), 40);
     }
 
     private static void imagesOfVehicles() {

@@ -6,6 +6,7 @@ final class MovesTest {
         judges();
         noMoves();
         mostMoves();
+        lastRowHits();
         sorts();
         refusals();
         badNumbers();
@@ -15,6 +16,7 @@ final class MovesTest {
         kindsByLaw();
         widths();
         widthsWhereItFits();
+        allWidths();
         laws();
         Due.end();
     }
@@ -79,6 +81,49 @@ final class MovesTest {
         ends(x, 0, 0, 20, 0, 13, 9750);
         Due.law(x, "clears 1 ; wears 26 ; sure 1 ;");
         ends(x, 0, 0, 20, 0, 13, 9999);
+    }
+
+    /** Rows count from 0, and of a row's STEPS the last one counts, too. */
+    private static void lastRowHits() {
+        ThreePoints x = new ThreePoints();
+        x.vehicle(0, 20);
+        x.drive(0, 0, 1);
+        int[] moves = new int[39];
+        for (int i = 0; i < 13; i++) {
+            moves[3 * i] = i % 2;
+            moves[3 * i + 2] = 9;
+        }
+        Due.sheet(x, 0, moves);
+        // by HEADING 1 from 20 up to 29 and down again, 13 times
+        Due.is("19 none", x.judge(0, 0), -1);
+        ends(x, 0, 0, 29, 1, 13, 2 + 117);
+        x.cell(0, 38, 18);
+        Due.is("19 the last STEP of the last row still CAN BE", x.judge(0, 0), -1);
+        ends(x, 0, 0, 38, 1, 13, 2 + 126);
+        x.cell(0, 38, 19);
+        Due.is("19 the last STEP of the last row CAN not BE", x.judge(0, 0), 12);
+        ends(x, 0, 0, 38, 1, 13, 2 + 126);
+        Due.is("22 one wider", x.widths(0, 0, 0), 41);
+        Due.is("21 HEADING 9 is not had", x.kinds(0, 0, 0), 0);
+        Due.is("23 by no TEXT", x.laws(0, 0), 0);
+        Due.text(x, "clears 0 ; wears 1 ; sure 1 ;");
+        Due.is("23 by the new TEXT", x.laws(0, 0), 2);
+    }
+
+    private static void allWidths() {
+        ThreePoints x = new ThreePoints();
+        x.vehicle(0, 4);
+        Due.sheet(x, 0, 0, 0, 30);
+        Due.is("22 the least there is", x.widths(0, 0, 0), 8);
+        Due.is("22 all", x.widths(0, 0, 1), 53);
+        x.begin(0, 39);
+        x.set(0, 60);
+        x.begin(0, 59);
+        Due.is("22 the greatest there is", x.widths(0, 0, 0), 60);
+        Due.is("22 one", x.widths(0, 0, 1), 1);
+        Due.sheet(x, 0, 0, 1, 1);
+        Due.is("22 none", x.widths(0, 0, 0), -1);
+        Due.is("22 none", x.widths(0, 0, 1), 0);
     }
 
     private static void sorts() {

@@ -16,7 +16,9 @@ final class TurnedTest {
         whereByWear();
         narrow();
         narrowUsesWidth();
+        widestNarrow();
         cut();
+        deepestCut();
         cutFromWhereItIs();
         headings();
         atPlaceZero();
@@ -233,6 +235,33 @@ final class TurnedTest {
         Due.law(x, "clears (heading = 0) * 9 ; wears 1 ; sure 1 ;");
         Due.is("15 it must FIT to begin with", x.narrow(0, 99), 18);
         Due.is("15 THE LANE stays", x.count(1), 40);
+    }
+
+    /** By the clears that asks for most, all the lane long, the vehicle that needs most room. */
+    private static void widestNarrow() {
+        ThreePoints x = new ThreePoints();
+        x.vehicle(51, 20);
+        Due.law(x, "clears 9 ; wears 1 ; sure 1 ;");
+        Due.is("15 the widest", x.narrow(0, 1), 54);
+        ThreePoints y = new ThreePoints();
+        y.vehicle(40, 20);
+        y.set(1, 20);
+        Due.law(y, "clears 0 ; wears 1 ; sure 1 ;");
+        Due.is("15 the least WIDTH there is", y.narrow(0, 99), 8);
+    }
+
+    private static void deepestCut() {
+        ThreePoints x = new ThreePoints();
+        x.set(0, 14);
+        Due.law(x, "clears wall * 9 * (3 < heading and heading < 6) ; wears 1 ; sure 1 ;");
+        x.vehicle(19, 9);
+        Due.is("16 by two POINTS none", x.cut(0, 2), -1);
+        Due.is("16 by three the deepest", x.cut(0, 3), 20);
+        Due.is("16 by four one less", x.cut(0, 4), 19);
+        x.set(1, 20);
+        Due.is("13 three POINTS by the deepest", x.turned(0, 0), 3);
+        x.set(1, 19);
+        Due.is("13 four POINTS by one less", x.turned(0, 0), 4);
     }
 
     private static void cut() {

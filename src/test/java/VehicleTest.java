@@ -13,9 +13,12 @@ final class VehicleTest {
         fitsByOpening();
         fitsByLaw();
         turns();
+        goRound();
         places();
         drives();
         drivesRefused();
+        drivesOutOfTheLane();
+        clearsDoesNotSteer();
         wearsByLaw();
         mostWear();
         begins();
@@ -194,6 +197,32 @@ final class VehicleTest {
         turn(59, 15, 0, 0, 1, 0, 0);
     }
 
+    /** HEADINGS go round: 15 and 1 more are 0, 0 and 1 less 15. */
+    private static void goRound() {
+        ThreePoints x = new ThreePoints();
+        x.set(0, 60);
+        x.vehicle(0, 30);
+        for (int i = 1; i <= 17; i++) {
+            x.drive(0, 0, 1);
+            Due.is("11 round", x.told(0, 3), i % 16);
+        }
+        x.begin(0, 30);
+        for (int i = 1; i <= 17; i++) {
+            x.drive(0, 1, 1);
+            Due.is("11 round the other way", x.told(0, 3), (32 - i) % 16);
+        }
+        x.vehicle(40, 30);
+        for (int i = 1; i <= 9; i++) {
+            x.drive(1, 0, 1);
+            Due.is("11 round by twos", x.told(1, 3), 2 * i % 16);
+        }
+        x.begin(1, 30);
+        for (int i = 1; i <= 9; i++) {
+            x.drive(1, 0, -1);
+            Due.is("11 round by twos the other way", x.told(1, 3), (32 - 2 * i) % 16);
+        }
+    }
+
     private static void places() {
         int[] by = {0, 1, 3, 3, 4, 3, 3, 1, 0, -1, -3, -3, -4, -3, -3, -1};
         ThreePoints x = new ThreePoints();
@@ -239,6 +268,44 @@ final class VehicleTest {
         Due.is("11 it can't turn at the wall", x.drive(0, 1, 1), -3);
         Due.is("11 it can go straight", x.drive(0, 0, 0), 1);
         Due.is("11 the other one can turn", x.drive(1, 0, 1), 20);
+    }
+
+    /** In the OPENING its FRONT may stand, but its PLACE is in THE LANE. */
+    private static void drivesOutOfTheLane() {
+        ThreePoints x = new ThreePoints();
+        x.set(1, 20);
+        x.vehicle(0, 23);
+        for (int i = 0; i < 4; i++) x.drive(0, 0, 1);
+        Due.is("11 HEADING", x.told(0, 3), 4);
+        int[] due = {34, 38, -3};
+        for (int at : due) Due.is("11 forward into the OPENING", x.drive(0, 0, 0), at);
+        Due.is("11 at 38", x.told(0, 2), 38);
+        x.begin(0, 25);
+        for (int i = 0; i < 4; i++) x.drive(0, 0, 1);
+        for (int at : new int[] {36, 40, -3}) Due.is("11 PLACE WIDTH is in THE LANE", x.drive(0, 0, 0), at);
+        Due.is("10 PLACE WIDTH is in THE LANE", x.fit(0, 4004), 1);
+
+        // with HEADING 12 its BACK is in the OPENING
+        x.begin(0, 35);
+        for (int i = 0; i < 4; i++) x.drive(0, 0, -1);
+        for (int at : new int[] {32, 36, 40, -3}) Due.is("11 back into the OPENING", x.drive(0, 1, 0), at);
+
+        ThreePoints y = new ThreePoints();
+        Due.law(y, "clears 0 ; wears 1 ; sure 1 ;");
+        y.vehicle(20, 0);
+        Due.is("11 PLACE 0 is in THE LANE", y.drive(0, 0, 1), 0);
+        Due.is("11 below it nothing is", y.drive(0, 1, 0), -3);
+        Due.is("11 it stays", y.told(0, 2), 0);
+    }
+
+    private static void clearsDoesNotSteer() {
+        ThreePoints x = new ThreePoints();
+        x.vehicle(0, 20);
+        Due.law(x, "clears steers * 9 ; wears 1 ; sure 1 ;");
+        Due.is("12 at the wall", x.begin(0, 2), 20);
+        Due.is("11 of clears steers is 0", x.drive(0, 0, 1), 2);
+        Due.is("11 of clears steers is 0", x.drive(0, 0, 0), 3);
+        Due.is("7 but as told in asks()", x.asks(0, 0, 200, 1), 9);
     }
 
     private static void wearsByLaw() {
