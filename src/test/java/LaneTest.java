@@ -13,6 +13,7 @@ final class LaneTest {
         faults();
         firstFaults();
         everyByte();
+        everyWord();
         longTexts();
         opens();
         sixthOpen();
@@ -228,6 +229,14 @@ final class LaneTest {
         fault("clears 1 * ; wears 1 ; sure 1 ;", 11);
         fault("clears 1 or ; wears 1 ; sure 1 ;", 12);
         fault("clears and 1 ; wears 1 ; sure 1 ;", 7);
+        fault("clears 1 and ; wears 1 ; sure 1 ;", 13);
+        fault("clears not ; wears 1 ; sure 1 ;", 11);
+        fault("clears 1 < ; wears 1 ; sure 1 ;", 11);
+        fault("clears 1 = ; wears 1 ; sure 1 ;", 11);
+        fault("clears 1 + ; wears 1 ; sure 1 ;", 11);
+        fault("clears 1 - ; wears 1 ; sure 1 ;", 11);
+        fault("clears - ; wears 1 ; sure 1 ;", 9);
+        fault("clears 1 ; wears 1 ; sure ;", 26);
         fault("clears 1 + not 1 ; wears 1 ; sure 1 ;", 11);
         fault("clears - not 1 ; wears 1 ; sure 1 ;", 9);
         fault("clears 1 < not 1 ; wears 1 ; sure 1 ;", 11);
@@ -275,6 +284,27 @@ final class LaneTest {
             Due.is("5 byte " + b, Due.text(new ThreePoints(), "clears 1" + (char) b + "1 ; wears 1 ; sure 1 ;"), between);
             Due.is("5 byte " + b + " ahead", Due.text(new ThreePoints(), (char) b + text), blank ? 1 : -100);
             Due.is("5 byte " + b + " behind", Due.text(new ThreePoints(), text + (char) b), blank ? 1 : -129);
+        }
+    }
+
+    /** Each WORD with another letter in each of its places, with a letter less, one more, and one that is a capital. */
+    private static void everyWord() {
+        String text = "clears 1 or 1 and not 1 ; wears more + wall + heading + place ; sure width + steers ;";
+        String[] words = {"clears", "or", "and", "not", "wears", "more", "wall", "heading", "place", "sure", "width", "steers"};
+        Due.is("5 all words", Due.text(new ThreePoints(), text), 1);
+        for (String word : words) {
+            int at = text.indexOf(word);
+            String ahead = text.substring(0, at);
+            String behind = text.substring(at + word.length());
+            for (int i = 0; i < word.length(); i++) {
+                String start = word.substring(0, i);
+                String end = word.substring(i + 1);
+                char other = word.charAt(i) == 'z' ? 'a' : (char) (word.charAt(i) + 1);
+                fault(ahead + start + other + end + behind, at);
+                fault(ahead + start + end + behind, at);
+                fault(ahead + start + word.charAt(i) + word.charAt(i) + end + behind, at);
+                fault(ahead + start + (char) (word.charAt(i) - 32) + end + behind, at);
+            }
         }
     }
 
@@ -376,6 +406,13 @@ final class LaneTest {
         for (int ws : new int[] {-1, 2, 9, 12, 20, 100, 101, -10, MIN, MAX}) Due.is("7 " + ws, x.asks(0, 0, 0, ws), -2);
         Due.is("7 the least PLACE", x.asks(0, 0, 0, 0), 1);
         Due.is("7 the greatest PLACE", x.asks(0, 0, 4015, 11), 1);
+        x.set(0, 60);
+        Due.is("7 the greatest PLACE of a wider lane", x.asks(0, 0, 6015, 11), 1);
+        for (int at : new int[] {6016, 6099, 6100}) Due.is("7 at " + at, x.asks(0, 0, at, 0), -2);
+        x.begin(0, 5);
+        x.set(0, 8);
+        Due.is("7 the greatest PLACE of a narrow lane", x.asks(0, 0, 815, 11), 1);
+        for (int at : new int[] {816, 900, 4015}) Due.is("7 at " + at, x.asks(0, 0, at, 0), -2);
     }
 
     private static void asksOfTheFirstLaw() {
@@ -419,6 +456,18 @@ final class LaneTest {
         value("- (2 - 5)", 3);
         value("50 - - 2", 52);
         value("5 or 0", 1);
+        value("5 + (0 or 0)", 5);
+        value("5 + (0 or 7)", 6);
+        value("5 + (0 and 7)", 5);
+        value("5 + (7 and 7)", 6);
+        value("5 + (not 7)", 5);
+        value("5 + (not 0)", 6);
+        value("5 + (7 < 7)", 5);
+        value("5 + (6 < 7)", 6);
+        value("5 + (6 = 7)", 5);
+        value("5 + (7 = 7)", 6);
+        value("5 + ((0 - 7) and (0 - 7))", 6);
+        value("5 + (not (0 - 7))", 5);
         value("0 or 0", 0);
         value("5 and 7", 1);
         value("5 and 0", 0);

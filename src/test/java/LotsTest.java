@@ -88,6 +88,24 @@ final class LotsTest {
         drawn(y, 1, 1, 0, 35, 2);
         Due.law(x, "clears 1 ; wears 1 ; sure 46 * (place = 1 and heading = 0) ;");
         drawn(x, 0, 1, -1, 1, 0);
+        // 90 straight on: just no less than sure, and just less, by steers and wall 0
+        Due.law(y, "clears 1 ; wears 1 ; sure 90 + steers + wall ;");
+        drawn(y, 1, 1, 0, 35, 2);
+        Due.law(y, "clears 1 ; wears 1 ; sure 91 - steers - wall ;");
+        drawn(y, 1, 1, -1, 35, 2);
+        Due.law(y, "clears 1 ; wears 1 ; sure 91 + steers + wall ;");
+        drawn(y, 1, 1, -1, 35, 2);
+        // 45 to a side
+        ThreePoints z = new ThreePoints();
+        z.vehicle(0, 1);
+        Due.law(z, "clears 1 ; wears 1 ; sure 44 + steers + wall ;");
+        drawn(z, 0, 1, 0, 1, 0);
+        Due.law(z, "clears 1 ; wears 1 ; sure 45 + steers + wall ;");
+        drawn(z, 0, 1, -1, 1, 0);
+        Due.law(z, "clears 1 ; wears 1 ; sure 47 - steers - wall ;");
+        drawn(z, 0, 1, -1, 1, 0);
+        Due.law(z, "clears 1 ; wears 1 ; sure 46 - steers - wall ;");
+        drawn(z, 0, 1, 0, 1, 0);
     }
 
     private static void hitsOfTheSecondLot() {
@@ -266,7 +284,10 @@ final class LotsTest {
         ThreePoints x = new ThreePoints();
         Due.is("26 none", x.image(), 0);
         x.vehicle(0, 20);
+        Due.is("18 it is the best", x.best(0), 0);
         Due.is("27 those that came since are none", x.back(), 0);
+        Due.is("18 none is", x.best(0), -1);
+        Due.is("18 none is", x.best(1), -1);
         Due.is("27 none", x.count(0), 0);
         Due.is("27 none", x.told(0, 0), -5);
         x.vehicle(11, 20);

@@ -10,6 +10,7 @@ final class TurnedTest {
         turnedByLastWay();
         turnedWithKinds();
         turnedByWear();
+        turnedTowardAWall();
         turnedFromWhereItDoesNotFit();
         turnedRefused();
         where();
@@ -21,7 +22,10 @@ final class TurnedTest {
         deepestCut();
         cutFromWhereItIs();
         headings();
+        headingsByOneSide();
         atPlaceZero();
+        atPlaceWidth();
+        notBelowPlaceZero();
         best();
         nothingChanged();
         Due.end();
@@ -108,6 +112,28 @@ final class TurnedTest {
         turned(x, 0, 1, 0, 8, 0);
     }
 
+    /** With its FRONT at a wall there is no way but back, eight STEPS to either side. */
+    private static void turnedTowardAWall() {
+        ThreePoints x = new ThreePoints();
+        x.vehicle(0, 27);
+        for (int i = 0; i < 4; i++) x.drive(0, 0, 1);
+        Due.same("toward the far wall", Due.state(x, 0), "0 0 34 4 1 8 0 5 4");
+        turned(x, 0, 1, 10, 16, 10);
+        x.vehicle(0, 13);
+        for (int i = 0; i < 4; i++) x.drive(1, 0, -1);
+        Due.same("toward the near wall", Due.state(x, 1), "0 0 6 12 1 8 0 5 4");
+        turned(x, 1, 1, 10, 16, 10);
+
+        // a STEP more would be out of THE LANE, though its FRONT could go on
+        ThreePoints y = new ThreePoints();
+        y.set(0, 60);
+        y.set(1, 20);
+        y.vehicle(0, 47);
+        for (int i = 0; i < 4; i++) y.drive(0, 0, 1);
+        Due.is("11 into the OPENING", y.drive(0, 0, 0), 58);
+        turned(y, 0, 1, 10, 16, 10);
+    }
+
     private static void turnedFromWhereItDoesNotFit() {
         ThreePoints y = new ThreePoints();
         y.set(0, 18);
@@ -181,6 +207,11 @@ final class TurnedTest {
         where(c, 0, 0, 1, 40, 14);
         Due.law(c, "clears 0 ; wears 2 - (place = 0 and heading = 0) * 2 ; sure 1 ;");
         where(c, 0, 0, 1, 0, 14);
+        ThreePoints w = new ThreePoints();
+        w.set(0, 60);
+        w.vehicle(20, 30);
+        Due.law(w, "clears 0 ; wears 2 - (place = width and heading = 0) * 2 ; sure 1 ;");
+        where(w, 0, 0, 1, 60, 14);
         // the lane is too narrow for it with HEADING 0, though not with others
         ThreePoints y = new ThreePoints();
         y.set(0, 17);
@@ -323,6 +354,47 @@ final class TurnedTest {
             y.set(0, width);
             Due.is("17 WIDTH " + width, y.headings(0), due[width - 8]);
         }
+    }
+
+    /** What TURNS to one side only turns forward by it, and back by it the other way round. */
+    private static void headingsByOneSide() {
+        int[][] due = {{50, 0xe007, 0xe00f, 0xf01f}, {51, 0xc00f, 0xe00f, 0xf01f}};
+        for (int[] d : due) {
+            for (int i = 0; i < 3; i++) {
+                ThreePoints x = new ThreePoints();
+                x.vehicle(d[0], (11 + i) / 2);
+                x.set(0, 11 + i);
+                Due.is("17 " + d[0] + " WIDTH " + (11 + i), x.headings(0), d[i + 1]);
+            }
+        }
+    }
+
+    /** HEADING 8 only at PLACE WIDTH, in 17. */
+    private static void atPlaceWidth() {
+        ThreePoints x = new ThreePoints();
+        x.vehicle(20, 7);
+        Due.is("WIDTH", x.set(0, 17), 40);
+        Due.law(x, "clears (heading = 8 and place < width) * 9 ; wears 1 ; sure 1 ;");
+        turned(x, 0, 2, 0, 8, 0);
+        Due.is("17 all", x.headings(0), 65535);
+        Due.is("14 by two POINTS", x.where(0, 1), 2);
+        Due.is("16 by two POINTS", x.cut(0, 2), 0);
+        Due.law(x, "clears (heading = 8) * 9 ; wears 1 ; sure 1 ;");
+        turned(x, 0, -1, -1, -1, -1);
+        Due.is("17 all but HEADING 8", x.headings(0), 65535 - 256);
+    }
+
+    /** HEADING 8 could only be come to from a PLACE below 0. */
+    private static void notBelowPlaceZero() {
+        ThreePoints x = new ThreePoints();
+        x.vehicle(20, 8);
+        x.set(0, 17);
+        Due.law(x, "clears (heading = 8 and 0 < place or place = 1 and (heading = 7 or heading = 9)) * 9 ; wears 1 ; sure 1 ;");
+        Due.is("10 HEADING 7 at PLACE 0", x.fit(0, 7), 1);
+        Due.is("10 HEADING 8 at PLACE 0", x.fit(0, 8), 1);
+        turned(x, 0, -1, -1, -1, -1);
+        Due.is("14 from nowhere", x.where(0, 0), -1);
+        Due.is("17 all but HEADING 8", x.headings(0), 65535 - 256);
     }
 
     /** HEADING 0 only at PLACE 0, in 17, and then nowhere. */
