@@ -293,7 +293,7 @@ public final class ThreePoints {
         int refusal = refusalOfMoves(s, v);
         if (refusal != FINE) return refusal;
         int bits = 0;
-        for (int t = 0; t < textCount; t++) {
+        for (int t = 0; t < textCount && t < MOST_TEXTS; t++) {
             think(v);
             ride.law = texts[t];
             if (ride.through(sheets[s]) == NONE) bits |= 1 << t;
@@ -324,8 +324,7 @@ public final class ThreePoints {
             think(v);
             if (ride.byLots(seed + i, steps) == NONE) without++;
         }
-        int divisor = commonDivisor(without, seeds);
-        return part == 0 ? without / divisor : seeds / divisor;
+        return part == 0 ? inLowestTerms(without, seeds) : inLowestTerms(seeds, without);
     }
 
     public int image() {
@@ -415,12 +414,12 @@ public final class ThreePoints {
         return (heading + HALF_ROUND) & 15;
     }
 
-    /** The greatest by which both go; b is above 0. */
-    private static int commonDivisor(int a, int b) {
-        for (int d = b; d > 1; d--) {
-            if (a % d == 0 && b % d == 0) return d;
+    /** What a number becomes in lowest terms with another one. */
+    private static int inLowestTerms(int number, int other) {
+        for (int d = number; d > 1; d--) {
+            if (number % d == 0 && other % d == 0) return number / d;
         }
-        return 1;
+        return number;
     }
 
     private boolean isVehicle(int v) {
