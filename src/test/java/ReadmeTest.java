@@ -35,6 +35,7 @@ final class ReadmeTest {
         for (Method method : ThreePoints.class.getDeclaredMethods()) {
             if (!Modifier.isPublic(method.getModifiers())) continue;
             Due.isTrue("a line with " + method.getName(), page.contains("x." + method.getName() + "("));
+            Due.isTrue("a row of " + method.getName(), page.contains("| `" + method.getName() + "("));
         }
     }
 
